@@ -455,8 +455,8 @@ public final class Spanwarden {
         int ofSecond = 0;
         int all = first.count + second.count;
         for (int turn = 0; turn < all; turn++) {
-            boolean isSeconds = ((turns >>> (turn & 31)) & 1) == 1;
-            if (ofSecond < second.count && (isSeconds || ofFirst >= first.count)) {
+            boolean isTurnOfSecond = ((turns >>> (turn & 31)) & 1) == 1;
+            if (ofSecond < second.count && (isTurnOfSecond || ofFirst >= first.count)) {
                 second.doStep(ofSecond, table);
                 ofSecond++;
             } else if (ofFirst < first.count) {

@@ -32,7 +32,8 @@ final class Calls {
                 return x.isLike((int) a[0], (int) a[1]);
             case "open":
                 return x.open(
-                        (int) a[0], (int) a[1], (int) a[2], (boolean) a[3], (int) a[4], (boolean) a[5]);
+                        (int) a[0], (int) a[1], (int) a[2], (boolean) a[3], (int) a[4],
+                        (boolean) a[5]);
             case "cut":
                 return x.cut((int) a[0], (int) a[1], (boolean) a[2], (int) a[3], (boolean) a[4]);
             case "viewPut":
@@ -108,7 +109,8 @@ final class Calls {
                 return x.isLike((int) a[0], (int) a[1]);
             case "open":
                 return x.open(
-                        (int) a[0], (int) a[1], (int) a[2], (boolean) a[3], (int) a[4], (boolean) a[5]);
+                        (int) a[0], (int) a[1], (int) a[2], (boolean) a[3], (int) a[4],
+                        (boolean) a[5]);
             case "cut":
                 return x.cut((int) a[0], (int) a[1], (boolean) a[2], (int) a[3], (boolean) a[4]);
             case "viewPut":

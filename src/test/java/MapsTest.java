@@ -63,6 +63,9 @@ public final class MapsTest {
         Spanwarden x = full(1);
         Check.due("put of a key that is there", x.put(1, 30, -5), 60);
         Check.due("its value", x.value(1, 30), -5);
+        Check.due("put of the least key", x.put(1, 0, 11), 60);
+        Check.due("put of the greatest key", x.put(1, 59, 12), 60);
+        Check.due("their values", x.value(1, 0) * 100 + x.value(1, 59), 1112);
         Check.refused("put of a 61st key", x, Check.STATE, () -> x.put(1, 60, 0));
         Check.refused("put of a 61st key below", x, Check.STATE, () -> x.put(1, -1, 0));
         Check.due("another map has room", x.put(0, 60, 0), 1);
@@ -71,6 +74,10 @@ public final class MapsTest {
         Check.due("value of the least key", x.value(2, LEAST), MOST);
         x.remove(1, 0);
         Check.due("put after a removal", x.put(1, 60, 0), 60);
+        x.remove(1, 60);
+        Check.refused("value of what was the greatest", x, Check.NONE, () -> x.value(1, 60));
+        Check.refused("near what was the greatest", x, Check.NONE, () -> x.near(1, 60, 'c'));
+        Check.due("put of it again", x.put(1, 60, 1), 60);
         for (int map : NO_MAPS) {
             Check.refused("put, no map", x, Check.BOUNDS, () -> x.put(map, 99, 0));
         }

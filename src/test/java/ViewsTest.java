@@ -180,6 +180,11 @@ public final class ViewsTest {
         Check.holds("a key that is outside", !x.viewRemove(0, 20) && !x.viewRemove(0, 50));
         Check.due("that stays in the map", x.size(0), 4);
         Check.holds("the end that is counted", x.viewRemove(0, 40));
+        x.open(0, 0, 10, true, 50, true);
+        Check.holds("the greatest key of the map", x.viewRemove(0, 50));
+        Check.holds("nor that again", !x.viewRemove(0, 50));
+        Check.holds("the least key of the map", x.viewRemove(0, 10));
+        Check.due("one is left", x.viewSize(0), 1);
         Check.refused("not open", x, Check.NONE, () -> x.viewRemove(1, 20) ? 1 : 0);
         for (int view : NO_VIEWS) {
             Check.refused("no view", x, Check.BOUNDS, () -> x.viewRemove(view, 20) ? 1 : 0);
@@ -222,6 +227,11 @@ public final class ViewsTest {
                 Check.refused("no view", x, Check.BOUNDS, () -> x.viewNear(view, 20, way));
             }
         }
+        x.open(1, 0, LEAST, true, MOST, true);
+        Check.due("the least key of the map", x.viewNear(1, 19, 'f'), 10);
+        Check.due("the least key of the map", x.viewNear(1, LEAST, 'h'), 10);
+        Check.due("the greatest key of the map", x.viewNear(1, MOST, 'l'), 50);
+        Check.due("the greatest key of the map", x.viewNear(1, 50, 'c'), 50);
         Check.refused("no way", x, Check.ARGUMENT, () -> x.viewNear(0, 20, 'x'));
         Check.refused("way ahead of not open", x, Check.ARGUMENT, () -> x.viewNear(2, 20, 'x'));
         Check.refused("view ahead of way", x, Check.BOUNDS, () -> x.viewNear(4, 20, 'x'));

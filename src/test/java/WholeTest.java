@@ -40,6 +40,9 @@ public final class WholeTest {
         x.put(2, -3, 0);
         x.put(2, 0, 0);
         Check.due("mean below 0", x.meanKey(2), -1.5);
+        x.put(2, 9, 0);
+        x.remove(2, 9);
+        Check.due("what is gone does not count", x.meanKey(2), -1.5);
         x.drain(2, false);
         Check.refused("mean of none", x, Check.ARITHMETIC, () -> (long) x.meanKey(2));
         for (int map : NO_MAPS) {
