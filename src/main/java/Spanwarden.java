@@ -354,19 +354,11 @@ public final class Spanwarden {
     private boolean areOrdersFree() {
         for (int one = 0; one < histories.length; one++) {
             for (int other = one + 1; other < histories.length; other++) {
-                if (bench.countCommonKeys(histories[one], histories[other]) == 0
-                        && !isOrderFreeOnAll(histories[one], histories[other])) {
-                    return false;
+                for (int map = 0; map < maps.length; map++) {
+                    if (!bench.isOrderFree(histories[one], histories[other], maps[map])) {
+                        return false;
+                    }
                 }
-            }
-        }
-        return true;
-    }
-
-    private boolean isOrderFreeOnAll(History one, History other) {
-        for (int map = 0; map < maps.length; map++) {
-            if (!bench.isOrderFree(one, other, maps[map])) {
-                return false;
             }
         }
         return true;
@@ -856,8 +848,11 @@ public final class Spanwarden {
             return left.count == 0;
         }
 
-        /** Tells whether two histories do the same to a table, whichever is played first. */
+        /** Tells whether two histories without a common key do the same in either order. */
         boolean isOrderFree(History one, History other, Table table) {
+            if (countCommonKeys(one, other) > 0) {
+                return true;
+            }
             left.becomeCopy(table);
             one.playOn(left);
             other.playOn(left);

@@ -3,8 +3,6 @@ import java.lang.reflect.Constructor;
 import java.lang.reflect.Field;
 import java.lang.reflect.Method;
 import java.lang.reflect.Modifier;
-import java.nio.file.Files;
-import java.nio.file.Path;
 import java.util.Arrays;
 import java.util.TreeSet;
 import java.util.stream.Collectors;
@@ -47,18 +45,10 @@ public final class FaceTest {
     /** Lines such as: public int put(int map, int key, int value) throws ..; */
     private static TreeSet<String> dueFace() throws IOException {
         TreeSet<String> face = new TreeSet<>();
-        boolean isInside = false;
-        for (String line : Files.readAllLines(Path.of("../shared/DOC.md"))) {
-            String text = line.trim();
-            if (text.startsWith("public final class Spanwarden")) {
-                isInside = true;
-            } else if (text.equals("}")) {
-                isInside = false;
-            } else if (isInside && text.startsWith("public ")) {
-                face.add(
-                        text.substring("public ".length(), text.length() - 1)
-                                .replaceAll("(int|boolean|char) \\w+([,)])", "$1$2"));
-            }
+        for (String line : Document.face()) {
+            face.add(
+                    line.substring("public ".length(), line.length() - 1)
+                            .replaceAll("(int|boolean|char) \\w+([,)])", "$1$2"));
         }
         return face;
     }

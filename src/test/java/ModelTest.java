@@ -1,11 +1,21 @@
-import java.util.Map;
-import java.util.TreeMap;
-import java.util.function.Function;
+import java.lang.reflect.Method;
+import java.lang.reflect.Modifier;
+import java.util.Arrays;
+import java.util.TreeSet;
 
-/** Long runs of calls, drawn by a fixed rule, on the class and on the model at once. */
+/** Runs of calls on the class and on the model at once: drawn ones, and all spans of few keys. */
 public final class ModelTest {
-    private static final int RUNS = 900;
-    private static final int CALLS = 512;
+    private static final String BY_THE_LIBRARY =
+            "Three sorted maps, views of them and views of views, and histories of steps, by the"
+                    + " sorted map of the language's own library: the class drives"
+                    + " java.util.TreeMap, of ints to ints in their own order, and its subMap,"
+                    + " headMap and tailMap, and what is told here is what these are documented to"
+                    + " do";
+
+    private static final int RUNS = 1200;
+    // With a checksum behind each 16th call, and isSound() in the end, these are 511 calls.
+    private static final int CALLS = 480;
+    private static final int CALLS_TO_CHECKSUM = 16;
     private static final int LEAST = Integer.MIN_VALUE;
     private static final int MOST = Integer.MAX_VALUE;
     private static final String[] METHODS = {
@@ -14,76 +24,100 @@ public final class ModelTest {
         "viewPoll", "viewClear", "viewSize", "lies", "step", "forget", "play", "playBoth", "meet",
         "opposite", "combine", "fullShare", "meanKey", "checksum", "isSound",
     };
-    // Kinds of answers that the runs must have met, or they test less than they claim.
-    private static final String[] MUST_MEET = {
-        "put STATE", "cut NONE", "cut ARGUMENT", "cut STATE", "viewPut NONE", "viewPut ARGUMENT",
-        "viewPut STATE", "viewNear ARGUMENT", "viewNear NONE", "viewPoll NONE", "step ARGUMENT",
-        "step STATE", "play STATE", "playBoth STATE", "combine ARGUMENT", "combine STATE",
-        "meanKey ARITHMETIC", "polled NONE", "drained BOUNDS", "keyAt BOUNDS",
-    };
 
     private static long seed = 20261118;
     private static int profile;
 
-    public static void main(String[] args) {
-        Map<String, Integer> met = new TreeMap<>();
-        for (int run = 0; run < RUNS; run++) {
-            profile = run % 6;
-            if (!isRunAlike(run, met)) {
-                break;
-            }
-        }
-        for (String kind : MUST_MEET) {
-            Check.holds("the runs meet " + kind, met.getOrDefault(kind, 0) > 0);
-        }
-        for (String method : METHODS) {
-            Check.holds("the runs answer " + method, met.getOrDefault(method + " ok", 0) > 0);
-        }
-        Check.end();
+    public static void main(String[] args) throws IllegalAccessException {
+        Check.runAll(ModelTest.class);
     }
 
-    private static boolean isRunAlike(int run, Map<String, Integer> met) {
+    @Told(BY_THE_LIBRARY)
+    static void drawnRunsAreAnsweredAlike() {
+        TreeSet<String> met = new TreeSet<>();
+        boolean isAlike = true;
+        for (int run = 0; run < RUNS && isAlike; run++) {
+            profile = run % 6;
+            isAlike = isRunAlike(run, met);
+        }
+        // Runs that never met some kind of answer would test less than they claim.
+        for (Method method : Spanwarden.class.getDeclaredMethods()) {
+            if (Modifier.isPublic(method.getModifiers())) {
+                String name = method.getName();
+                Check.holds("the runs answer " + name, met.contains(name));
+                for (Class<?> thrown : method.getExceptionTypes()) {
+                    Check.holds(name + " throws " + thrown, met.contains(name + thrown));
+                }
+            }
+        }
+    }
+
+    private static boolean isRunAlike(int run, TreeSet<String> met) {
         Spanwarden x = new Spanwarden();
         Model model = new Model();
-        for (int i = 0; i < CALLS; i++) {
+        for (int i = 1; i <= CALLS; i++) {
             String method = drawMethod();
-            Object[] arguments = drawArguments(method);
-            Object got = answer(x, method, arguments);
-            Object due = answer(model, method, arguments);
-            String call = "run " + run + ", call " + i + ": " + method + show(arguments);
-            Check.holds(call + " answered " + got + ", due is " + due + ", which", got.equals(due));
-            Check.holds("checksum after " + call, x.checksum() == model.checksum());
-            met.merge(method + " " + kindOf(due), 1, Integer::sum);
-            if (!got.equals(due) || x.checksum() != model.checksum()) {
+            if (!isAnsweredAlike("run " + run, x, model, met, method, drawArguments(method))) {
+                return false;
+            }
+            if (i % CALLS_TO_CHECKSUM == 0
+                    && !isAnsweredAlike("run " + run, x, model, met, "checksum")) {
                 return false;
             }
         }
-        Check.holds("soundness after run " + run, x.isSound());
-        return true;
+        return isAnsweredAlike("run " + run, x, model, met, "isSound");
     }
 
-    private static String show(Object[] arguments) {
-        StringBuilder text = new StringBuilder("(");
-        for (Object argument : arguments) {
-            text.append(text.length() > 1 ? ", " : "").append(argument);
-        }
-        return text.append(")").toString();
+    private static boolean isAnsweredAlike(
+            String run, Spanwarden x, Model model, TreeSet<String> met, String method,
+            Object... arguments) {
+        Object got = Calls.answer(x, method, arguments);
+        Object due = Calls.answer(model, method, arguments);
+        String call = run + ": " + method + Arrays.toString(arguments);
+        Check.holds(call + " answered " + got + ", due is " + due + ", which", got.equals(due));
+        met.add(due instanceof Class ? method + due : method);
+        return got.equals(due);
     }
 
-    private static String kindOf(Object answer) {
-        if (answer == Check.BOUNDS) {
-            return "BOUNDS";
+    @Told(BY_THE_LIBRARY)
+    static void allSpansOfFewKeysAreAnsweredAlike() {
+        for (int from = -3; from <= 4; from++) {
+            for (int to = -3; to <= 4; to++) {
+                for (int ends = 0; ends < 4; ends++) {
+                    compareSpan(from, (ends & 1) != 0, to, (ends & 2) != 0);
+                }
+            }
         }
-        if (answer == Check.ARGUMENT) {
-            return "ARGUMENT";
+    }
+
+    private static void compareSpan(int from, boolean isFrom, int to, boolean isTo) {
+        Spanwarden x = new Spanwarden();
+        Model model = new Model();
+        TreeSet<String> met = new TreeSet<>();
+        String run = "span " + from + " " + isFrom + " to " + to + " " + isTo;
+        for (int key : new int[] {-2, 0, 1, 3}) {
+            isAnsweredAlike(run, x, model, met, "put", 0, key, 10 + key);
         }
-        if (answer == Check.STATE) {
-            return "STATE";
+        isAnsweredAlike(run, x, model, met, "open", 0, 0, from, isFrom, to, isTo);
+        for (int number = -4; number <= 5; number++) {
+            isAnsweredAlike(run, x, model, met, "lies", 0, number);
+            for (char way : "fchl".toCharArray()) {
+                isAnsweredAlike(run, x, model, met, "viewNear", 0, number, way);
+            }
+            for (int cut = 0; cut < 4; cut++) {
+                boolean isHead = (cut & 1) != 0;
+                boolean isIn = (cut & 2) != 0;
+                isAnsweredAlike(run, x, model, met, "cut", 1, 0, isHead, number, isIn);
+                isAnsweredAlike(run, x, model, met, "viewEnd", 1, isHead);
+            }
         }
-        if (answer == Check.ARITHMETIC) {
-            return "ARITHMETIC";
+        for (boolean isLast : Check.BOTH) {
+            isAnsweredAlike(run, x, model, met, "viewEnd", 0, isLast);
+            isAnsweredAlike(run, x, model, met, "viewPoll", 0, isLast);
+            isAnsweredAlike(run, x, model, met, "checksum");
         }
-        return answer == Check.NONE ? "NONE" : "ok";
+        isAnsweredAlike(run, x, model, met, "viewClear", 0);
+        isAnsweredAlike(run, x, model, met, "checksum");
     }
 
     private static int draw(int bound) {
@@ -226,18 +260,5 @@ public final class ModelTest {
         // Numbers that few cuts take out of the span, so that many come behind one another.
         int number = isHead ? 60 - draw(3) : draw(3);
         return new Object[] {view, isDrawn() ? view : drawPlace(4), isHead, number, draw(4) > 0};
-    }
-
-    /** The answer, or the very class of what was thrown. */
-    private static Object answer(Object asked, String method, Object[] arguments) {
-        Function<Object[], Object> call =
-                asked instanceof Spanwarden
-                        ? a -> Calls.ofClass((Spanwarden) asked, method, a)
-                        : a -> Calls.ofModel((Model) asked, method, a);
-        try {
-            return call.apply(arguments);
-        } catch (RuntimeException e) {
-            return e.getClass();
-        }
     }
 }
